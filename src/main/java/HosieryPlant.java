@@ -1190,6 +1190,7 @@ public final class HosieryPlant {
         // A kept worth stands in the lower bits, and the round it is from above them.
         private static final int WORTH_BITS = 20;
 
+        // For each piece the higher ones that it matches: of a set the lowest piece is paired first.
         private final int[] friends;
         private final int[] gaps;
         // The worth of each set of pieces without piece 0: no other set is asked for twice.
@@ -1226,13 +1227,16 @@ public final class HosieryPlant {
         private int takeMatches(Plant plant, boolean gapsWanted) {
             round++;
             int all = 0;
-            for (int i = 0; i < MOST_PIECES; i++) {
-                int set = i < plant.pieces ? plant.matchSet(i) : 0;
-                put(friends, i, set);
-                all |= set;
-                for (int j = 0; j < MOST_PIECES; j++) {
-                    put(gaps, i * MOST_PIECES + j, gapsWanted && contains(set, j) ? plant.gapOf(i, j) : 0);
+            for (int i = 0; i < plant.pieces; i++) {
+                int higher = 0;
+                for (int j = i + 1; j < plant.pieces; j++) {
+                    if (plant.fits(i, j)) {
+                        higher |= 1 << j;
+                        put(gaps, i * MOST_PIECES + j, gapsWanted ? plant.gapOf(i, j) : 0);
+                        all |= 1 << i | 1 << j;
+                    }
                 }
+                put(friends, i, higher);
             }
             return all;
         }
@@ -1275,7 +1279,8 @@ public final class HosieryPlant {
                     most = Math.max(most, worth);
                 }
             }
-            if (most < Integer.bitCount(others) / 2 * PAIR || most == NONE) {
+            // Leaving the first piece alone can only be better while the others could be worth more.
+            if (most < Integer.bitCount(others) / 2 * PAIR) {
                 most = Math.max(most, worthOf(of, others, depth + 1));
             }
             of.remember(rest, most);

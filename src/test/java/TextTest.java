@@ -108,6 +108,20 @@ public final class TextTest {
         due("append to 1200", x.append(0x20202020, 0x20202020, 0x20202020, 0x20202020, 0x20202020), 1200);
         due("load of blanks", x.load(), 0);
         due("append after load", x.append(0, 0, 0, 0, 0), 20);
+        checkCut("steam", 4, 1, 0);
+        checkCut("box 25", 5, 1, 5);
+        checkCut("box  ;", 4, 1, 4);
+        checkCut("box 2;", 5, 1, 5);
+        checkCut("yarn a 100 5;", 11, 1, 11);
+        type(x, "wool");
+        x.truncate(3);
+        due("find of a cut name", x.find(0), HosieryPlant.NONE);
+        type(x, "yarn wool 5 5;yarn woo 5 5;");
+        x.load();
+        type(x, "wool");
+        x.truncate(3);
+        due("find of a cut name", x.find(0), 1);
+        x.truncate(0);
         // Each byte of each parameter has its own place: most significant first.
         for (int place = 0; place < 20; place++) {
             for (int sign : new int[] {'!', 0, 127, 128, 255, 9, 13}) {
@@ -121,6 +135,23 @@ public final class TextTest {
                 due("errorPosition", x.errorPosition(), place);
             }
         }
+    }
+
+    /** What was cut off must not be read: the shorter text is refused with this code at this position. */
+    private static void checkCut(String text, int length, int code, int position) {
+        HosieryPlant x = new HosieryPlant();
+        type(x, text);
+        due("truncate of <" + text + ">", x.truncate(length), length);
+        due("load of a cut <" + text + ">", x.load(), HosieryPlant.PARSE_ERROR);
+        due("errorCode of a cut <" + text + ">", x.errorCode(), code);
+        due("errorPosition of a cut <" + text + ">", x.errorPosition(), position);
+        // Nor may what stood in the buffer before it was emptied.
+        type(x, text);
+        x.load();
+        due("load of nothing after <" + text + ">", x.load(), 0);
+        type(x, text.substring(0, length));
+        due("load again", x.load(), HosieryPlant.PARSE_ERROR);
+        due("errorPosition again", x.errorPosition(), position);
     }
 
     private static void checkExampleTwo() {
