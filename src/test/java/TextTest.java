@@ -113,6 +113,7 @@ public final class TextTest {
         checkCut("box  ;", 4, 1, 4);
         checkCut("box 2;", 5, 1, 5);
         checkCut("yarn a 100 5;", 11, 1, 11);
+        x.truncate(0);
         type(x, "wool");
         x.truncate(3);
         due("find of a cut name", x.find(0), HosieryPlant.NONE);
