@@ -68,6 +68,7 @@ public final class PairTest {
         checkNearest();
         checkBestPairing();
         checkFullPlant();
+        checkKnownPairings();
         checkPairCalls();
         checkPairSize();
         checkWorstPair();
@@ -196,6 +197,38 @@ public final class PairTest {
         due("pairCount() of wide gaps", wide.pairCount(), 7);
         due("pairGap() of wide gaps", wide.pairGap(), 3050);
         due("partner(6)", wide.partner(6), 7);
+    }
+
+    /** Fourteen pieces of mixed lengths and shades; the partners were found by trying every pairing there is. */
+    private static void checkKnownPairings() {
+        known("12 3", new int[] {1055, 1018, 1026, 1061, 1047, 1000, 1040, 1011, 1061, 1000, 1007, 1003, 1026, 1040},
+                new int[] {100, 102, 104, 100, 104, 100, 100, 107, 100, 102, 101, 100, 102, 100}, 28,
+                -1, 12, -1, 8, -1, 11, 13, -1, 3, 10, 9, 5, 1, 6);
+        known("20 4", new int[] {1007, 1055, 1055, 1040, 1007, 1007, 1000, 1000, 1011, 1011, 1007, 1007, 1018, 1026},
+                new int[] {100, 104, 107, 107, 100, 100, 107, 100, 102, 101, 100, 101, 102, 100}, 52,
+                4, -1, 3, 2, 0, 7, -1, 5, 12, 11, 13, 9, 8, 10);
+        known("12 3", new int[] {1018, 1003, 1026, 1018, 1055, 1055, 1000, 1055, 1061, 1026, 1003, 1018, 1026, 1018},
+                new int[] {102, 107, 101, 100, 102, 102, 107, 100, 100, 101, 100, 107, 101, 102}, 27,
+                13, 6, 3, 2, 5, 4, 1, 8, 7, 12, -1, -1, 9, 0);
+        known("20 4", new int[] {1047, 1031, 1026, 1031, 1055, 1000, 1040, 1000, 1007, 1055, 1011, 1003, 1011, 1040},
+                new int[] {101, 104, 101, 104, 101, 102, 100, 104, 107, 101, 101, 100, 102, 100}, 107,
+                6, 3, 13, 1, 9, 12, 0, 8, 7, 4, 11, 10, 5, 2);
+        known("12 3", new int[] {1026, 1047, 1055, 1026, 1007, 1026, 1018, 1047, 1003, 1018, 1061, 1026, 1018, 1007},
+                new int[] {100, 107, 100, 107, 107, 101, 102, 100, 107, 100, 100, 104, 104, 102}, 97,
+                9, -1, 10, 11, 8, 6, 5, -1, 4, 0, 2, 3, 13, 12);
+        known("20 4", new int[] {1011, 1055, 1026, 1018, 1040, 1061, 1031, 1007, 1000, 1061, 1000, 1040, 1026, 1011},
+                new int[] {100, 107, 104, 100, 107, 102, 100, 100, 102, 101, 100, 100, 102, 101}, 89,
+                3, 4, 12, 0, 1, 9, 11, 10, 13, 5, 7, 6, 2, 8);
+    }
+
+    private static void known(String tolerances, int[] lengths, int[] shades, int gapSum, int... partners) {
+        StringBuilder text = new StringBuilder("tolerance ").append(tolerances).append(';');
+        for (int i = 0; i < lengths.length; i++) {
+            text.append("piece a plain ").append(lengths[i]).append(' ').append(shades[i]).append(';');
+        }
+        HosieryPlant x = boarded(text.toString());
+        due("pairGap() of " + text, x.pairGap(), gapSum);
+        partnersDue(text.toString(), x, partners);
     }
 
     private static void checkPairCalls() {

@@ -15,7 +15,10 @@ public final class RandomTest {
     private static final int INVALID = -2;
     private static final int PARSE_ERROR = -4;
     private static final int WRONG_STATE = -6;
+    // What an object answers after its 512th call is free: a text that is typed then takes the last thirty.
+    private static final int MOST_CALLS = 512 - 30;
     private static int wrong = 0;
+    private static int calls = 0;
 
     public static void main(String[] args) throws Exception {
         TreeMap<String, Method> methods = new TreeMap<>();
@@ -36,8 +39,9 @@ public final class RandomTest {
         HosieryPlant x = new HosieryPlant();
         Model model = new Model();
         int mostPieces = seed % 40 == 0 ? 11 : 3 + seed % 6;
-        for (int call = 0; call < 512 && wrong < 10; call++) {
-            if (call == 0 || random.nextInt(60) == 0) {
+        calls = 0;
+        while (calls < MOST_CALLS && wrong < 10) {
+            if (calls == 0 || random.nextInt(60) == 0) {
                 typeText(x, model, seed, new Texts(random, mostPieces).next());
             }
             Method method = all.get(random.nextInt(all.size()));
@@ -57,6 +61,10 @@ public final class RandomTest {
     }
 
     private static void check(int seed, String call, int got, int want) {
+        calls++;
+        if (calls > 512) {
+            throw new IllegalStateException("more calls than the document promises");
+        }
         if (got != want) {
             wrong++;
             System.out.println("seed " + seed + ": " + call + " answered " + got + ", due is " + want);

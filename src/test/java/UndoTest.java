@@ -51,12 +51,23 @@ public final class UndoTest {
         return text.toString();
     }
 
+    private static String part(HosieryPlant x, int from, int to) {
+        int length = x.writePlant();
+        due("the byte after the last", x.outputByte(length), HosieryPlant.NONE);
+        StringBuilder text = new StringBuilder();
+        for (int i = from; i < to && i < length; i++) {
+            text.append((char) x.outputByte(i));
+        }
+        return text.toString();
+    }
+
     /** All that undo() brings back, as far as questions show it. */
     private static String seen(HosieryPlant x) {
-        StringBuilder text = new StringBuilder(written(x));
-        text.append(" days ").append(x.days()).append(" shapes ").append(x.shapeCount());
+        StringBuilder text = new StringBuilder("tolerance ").append(x.lengthTolerance()).append(' ').append(x.shadeTolerance());
+        text.append(" steam ").append(x.steam()).append(" days ").append(x.days()).append(" shapes ").append(x.shapeCount());
         for (int i = 0; i < x.pieceCount(); i++) {
-            text.append(' ').append(x.state(i)).append(':').append(x.length(i)).append(':').append(x.partner(i));
+            text.append(' ').append(x.state(i)).append(':').append(x.length(i)).append(':').append(x.shade(i));
+            text.append(':').append(x.partner(i));
         }
         return text.toString();
     }
@@ -109,6 +120,7 @@ public final class UndoTest {
             due("undo() of change " + way, x.undo(), count);
             due("undoCount() after undo", x.undoCount(), count);
             due("seen after undo of change " + way, seen(x), before);
+            due("written after undo of change " + way, written(x), written(loaded(PLANT)));
         }
     }
 
@@ -231,6 +243,9 @@ public final class UndoTest {
         for (char i = 'a'; i < 'o'; i++) {
             text.append("piece abcdef ribbed 9999 255;");
         }
-        due("the longest plant", written(loaded(text.toString())), text.toString());
+        // Two plants alike are read a half each: one may not be asked for all.
+        int half = text.length() / 2;
+        String read = part(loaded(text.toString()), 0, half) + part(loaded(text.toString()), half, text.length());
+        due("the longest plant", read, text.toString());
     }
 }
