@@ -188,6 +188,15 @@ public final class TextEdgeTest {
         says("for the end of the text it is the text's length");
         refused(rightText(1200).substring(0, 1199) + " ", 1, 1200);
         refused(rightText(1200).substring(0, 1199), 1, 1199);
+        says("a word is a maximal run of lowercase letters a-z; a number is a maximal run of decimal digits [in a full buffer]");
+        refused("a".repeat(1200), 1, 0);
+        refused("9".repeat(1200), 1, 0);
+        refused(";".repeat(1200), 1, 0);
+        refused("yarn " + "a".repeat(1195), 1, 5);
+        refused("steam " + "9".repeat(1194), 2, 6);
+        due("steam() of a long number", accepted("steam " + "0".repeat(1191) + "99;", 0).steam(), 99);
+        accepted(" ".repeat(1200), 0);
+        accepted("\n".repeat(1200), 0);
     }
 
     private static void checkAppend() {
@@ -650,7 +659,7 @@ public final class TextEdgeTest {
             accepted(singly.toString(), i);
             singly.append("piece a plain 500 5;");
         }
-        accepted(singly.toString(), 14);
+        due("pieceCount() of a full plant", accepted(singly.toString(), 14).pieceCount(), 14);
         says("too many [..] pieces (at the first word of the statement)");
         refused(singly + "piece a plain 500 5;", 5, singly.length());
         refused(singly + "piece", 5, singly.length());
@@ -804,6 +813,8 @@ public final class TextEdgeTest {
                 due("truncate(1)", x.truncate(1), HosieryPlant.NONE);
             }
         }
+        due("find(0) of a full buffer", findOf(x, "a".repeat(1200), 0), HosieryPlant.PARSE_ERROR);
+        due("truncate(1)", x.truncate(1), HosieryPlant.NONE);
         says("letters a-z");
         for (char sign = 0; sign < 256; sign++) {
             int due = isLetter(sign) ? HosieryPlant.NONE : HosieryPlant.PARSE_ERROR;

@@ -247,5 +247,6 @@ public final class UndoTest {
         int half = text.length() / 2;
         String read = part(loaded(text.toString()), 0, half) + part(loaded(text.toString()), half, text.length());
         due("the longest plant", read, text.toString());
+        due("writePlant() of the longest plant", loaded(text.toString()).writePlant(), text.length());
     }
 }
