@@ -1,7 +1,7 @@
 /**
  * A simulator of a finishing plant for hosiery: knitted pieces are stretched on shapes and steamed,
  * relax from day to day, are measured, matched into pairs within tolerances, sorted by size, and
- * packed into boxes. Everything is made by the constructor; no call makes a further object.
+ * packed into boxes. The constructor makes everything; later only the output text may grow.
  */
 public final class HosieryPlant {
     public static final int NONE = -1;
@@ -33,6 +33,7 @@ public final class HosieryPlant {
     private static final int GREATEST_LENGTH_TOLERANCE = 500;
     private static final int GREATEST_STRENGTH = 100;
 
+    // The input buffer is the row that the parser reads.
     private final int[] input;
     private int inputLength;
     private final StringBuilder output;
@@ -45,9 +46,9 @@ public final class HosieryPlant {
     private final Pairing pairing;
 
     public HosieryPlant() {
-        input = new int[MOST_BYTES];
+        parser = new Parser();
+        input = parser.text;
         output = new StringBuilder();
-        parser = new Parser(input);
         plant = new Plant();
         trial = new Plant();
         history = new History();
@@ -1322,7 +1323,7 @@ public final class HosieryPlant {
         final Plant draft;
         int code;
         int position;
-        private final int[] text;
+        final int[] text;
         private int textLength;
         private int token;
         private int start;
@@ -1332,8 +1333,8 @@ public final class HosieryPlant {
         private boolean steamSeen;
         private boolean boxSeen;
 
-        Parser(int[] bytes) {
-            text = bytes;
+        Parser() {
+            text = new int[MOST_BYTES];
             draft = new Plant();
             position = NONE;
         }
